@@ -521,7 +521,7 @@ public final class PathTiming {
         private final int[] length = new int[TREE];
         private final int[] early = new int[TREE];
         private final int[] late = new int[TREE];
-        /** The tree's nodes that stand for one state, as a chain. */
+        /** The tree's nodes that stand for one state, as a chain of at most 8. */
         private final int[] firstOf = new int[STATES];
         private final int[] nextOf = new int[TREE];
 
@@ -610,7 +610,9 @@ public final class PathTiming {
         }
 
         private void markNeeded() {
-            Arrays.fill(needed, false);
+            for (int state = 0; state < STATES; state++) {
+                needed[state] = false;
+            }
             for (int node = 0; node < net.size; node++) {
                 int from = net.source[node * PINS + CK];
                 if (net.kind[node] == REGISTER && from >= 0) {
@@ -660,10 +662,11 @@ public final class PathTiming {
             int stepEarly = net.stepEarly(place, change);
             int stepLate = net.stepLate(place, change);
             for (int was = 0; was < 2; was++) {
-                int from = net.lets(place, was, change) ? firstOf[2 * net.source[place] + was] : -1;
-                for (int at = from; at >= 0; at = nextOf[at]) {
+                int at = net.lets(place, was, change) ? firstOf[2 * net.source[place] + was] : -1;
+                for (int i = 0; i < MOST_WAYS && at >= 0; i++) {
                     grow(2 * gate + change, elementOf(gate, pin, change), at,
                             early[at] + stepEarly, late[at] + stepLate);
+                    at = nextOf[at];
                 }
             }
         }
@@ -687,15 +690,14 @@ public final class PathTiming {
             if (net.source[place] < 0) {
                 return;
             }
-            for (int at = firstOf[2 * net.source[place] + RISES]; at >= 0; at = nextOf[at]) {
+            int at = firstOf[2 * net.source[place] + RISES];
+            for (int i = 0; i < MOST_WAYS && at >= 0; i++) {
                 addWay(register, at, baseOf(at), early[at] + net.wireEarly[place], late[at] + net.wireLate[place]);
+                at = nextOf[at];
             }
         }
 
         private void addWay(int node, int newLast, int newBase, int newEarly, int newLate) {
-            if (count[node] >= MOST_WAYS) {
-                return;
-            }
             int way = node * MOST_WAYS + count[node];
             last[way] = newLast;
             base[way] = newBase;

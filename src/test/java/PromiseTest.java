@@ -426,6 +426,15 @@ public final class PromiseTest {
             }
         }
         DUE.same("very many ways to no register", y.analyse(), 0);
+        int from = 0;
+        for (int i = 0; i < 6; i++) {
+            int gate = y.gate(1);
+            y.wire(gate, 0, from, 0, 0);
+            from = gate;
+        }
+        y.wire(1, 1, from, 0, 0);
+        y.analyse();
+        DUE.same("very many ways beside the one to a register", y.ways(1), 1);
         y.wire(1, 1, 41, 0, 0);
         DUE.same("very many ways to a register", y.analyse(), PathTiming.TANGLE);
     }
@@ -666,6 +675,39 @@ public final class PromiseTest {
         x.analyse();
         DUE.same("none but for the clock's own element", x.slack(3, 0), 100 + 8 - 20);
         creditOfManyWays();
+        creditOfLongWays();
+    }
+
+    /** Gates 1 and 2 behind the clock; register 4 behind both, register 5 behind gate 3 behind both. */
+    private static void creditOfLongWays() {
+        PathTiming x = new PathTiming();
+        x.clock(1000, 40);
+        for (int gate = 1; gate <= 3; gate++) {
+            x.gate(2);
+            x.wire(gate, 0, gate - 1, gate, 10 * gate);
+            x.delay(gate, 0, 0, 100 * gate, 101 * gate);
+        }
+        x.register();
+        x.register();
+        x.wire(4, 1, 2, 0, 5);
+        x.wire(5, 1, 3, 0, 7);
+        x.wire(5, 0, 4, 1, 2);
+        x.wire(4, 0, 5, 3, 4);
+        x.analyse();
+        // To gate 1: 101 to 111; to gate 2: 303 to 333; to gate 3: 606 to 666. They share 30.
+        DUE.same("to the longer way, setup", x.slack(5, 0), 1000 + 606 + 30 - 338 - 2);
+        DUE.same("to the longer way, hold", x.slack(5, 1), 303 + 1 + 30 - 673);
+        DUE.same("to the shorter way, setup", x.slack(4, 0), 1000 + 303 + 30 - 673 - 4);
+        DUE.same("to the shorter way, hold", x.slack(4, 1), 606 + 3 + 30 - 338);
+        x.wire(3, 1, 1, 0, 0);
+        x.analyse();
+        DUE.same("two ways of one end", x.paths(), 2 * 2 + 2 * 2);
+        // Over gate 1 alone: 101 to 111, with 10 shared.
+        DUE.same("the sooner way is the worse for setup", x.slack(5, 0), 1000 + 101 + 10 - 338 - 2);
+        DUE.same("the later start is the worse for setup", x.path(0, 1), 656);
+        row(x, 0, 1, 0, 8, 16, 24, 43, 33, 0, 8, 16);
+        DUE.same("the end's sooner way comes next", x.path(0, 2), 771);
+        row(x, 0, 2, 0, 8, 16, 34, 40, 0, 8, 26);
     }
 
     /** Two ways to register 2, which differ by the pin of gate 1 or only by the clock's change. */
@@ -888,6 +930,18 @@ public final class PromiseTest {
         z.analyse();
         DUE.same("the list is made anew", z.path(0, 0), 1000);
         DUE.place("and short", () -> z.path(0, 2));
+        PathTiming v = chain(1, 1, 1);
+        for (int gate = 3; gate <= 5; gate++) {
+            v.delay(gate, 0, 0, gate, 10 * gate);
+            v.delay(gate, 0, 1, 10 * gate, 20 * gate);
+        }
+        v.analyse();
+        DUE.same("over three gates, falling, setup", v.path(0, 0), 1000 - 240);
+        DUE.same("over three gates, rising, setup", v.path(0, 1), 1000 - 120);
+        DUE.same("over three gates, rising, hold", v.path(1, 0), 12);
+        DUE.same("over three gates, falling, hold", v.path(1, 1), 120);
+        row(v, 0, 0, 9, 25, 33, 41, 17);
+        row(v, 1, 0, 8, 24, 32, 40, 16);
         PathTiming w = new PathTiming();
         w.analyse();
         DUE.place("without a timing path", () -> w.path(0, 0));
