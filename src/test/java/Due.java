@@ -15,6 +15,32 @@ final class Due {
         }
     }
 
+    /** Long texts of many lines: only the first lines that differ are told. */
+    void text(String what, String got, String want) {
+        looked++;
+        if (got.equals(want)) {
+            return;
+        }
+        wrong++;
+        String[] gotLines = got.split("\n");
+        String[] wantLines = want.split("\n");
+        int i = 0;
+        while (i < gotLines.length - 1 && i < wantLines.length - 1 && gotLines[i].equals(wantLines[i])) {
+            i++;
+        }
+        System.out.println(what + ": " + gotLines[i] + ", due is " + wantLines[i]);
+    }
+
+    /** A whole row of elements, with the places before and behind it. */
+    void row(PathTiming x, int check, int k, int... due) {
+        String name = "element(" + check + ", " + k + ", ";
+        same(name + "-1)", x.element(check, k, -1), -1);
+        for (int i = 0; i < due.length; i++) {
+            same(name + i + ")", x.element(check, k, i), due[i]);
+        }
+        same(name + due.length + ")", x.element(check, k, due.length), -1);
+    }
+
     void refused(String what, Class<? extends RuntimeException> due, Call call) {
         looked++;
         String got = "nothing";

@@ -36,59 +36,6 @@ public final class PromiseTest {
         DUE.finish();
     }
 
-    /** Clock 100, 40; input 1 wired to output 2: setup slacks 81 and 59, hold slacks -16 and -41. */
-    private static PathTiming inputToOutput() {
-        PathTiming x = new PathTiming();
-        x.clock(100, 40);
-        x.input(3, 5, -2, 7);
-        x.output();
-        x.wire(2, 0, 1, 1, 4);
-        x.check(2, 0, 10, 20);
-        x.check(2, 1, 30, 40);
-        return x;
-    }
-
-    /** Clock 100, 40; registers 1 and 2 on the clock, 1 wired to pin 0 of 2. */
-    private static PathTiming twoRegisters() {
-        PathTiming x = new PathTiming();
-        x.clock(100, 40);
-        x.register();
-        x.register();
-        x.wire(1, 1, 0, 1, 2);
-        x.wire(2, 1, 0, 3, 5);
-        x.wire(2, 0, 1, 7, 11);
-        x.delay(1, 1, 0, 13, 17);
-        x.delay(1, 1, 1, 19, 23);
-        x.check(2, 0, 29, 31);
-        x.check(2, 1, 37, 41);
-        return x;
-    }
-
-    /** Registers 1 (on the clock) and 2 (on the clock turned by gate 3), each wired to the other. */
-    private static PathTiming halfPeriods() {
-        PathTiming x = new PathTiming();
-        x.clock(100, 40);
-        x.register();
-        x.register();
-        x.gate(1);
-        x.sense(3, 0, 1);
-        x.wire(3, 0, 0, 0, 0);
-        x.wire(1, 1, 0, 0, 0);
-        x.wire(2, 1, 3, 0, 0);
-        x.wire(2, 0, 1, 5, 6);
-        x.wire(1, 0, 2, 7, 8);
-        return x;
-    }
-
-    private static void row(PathTiming x, int check, int k, int... due) {
-        String name = "element(" + check + ", " + k + ", ";
-        DUE.same(name + "-1)", x.element(check, k, -1), -1);
-        for (int i = 0; i < due.length; i++) {
-            DUE.same(name + i + ")", x.element(check, k, i), due[i]);
-        }
-        DUE.same(name + due.length + ")", x.element(check, k, due.length), -1);
-    }
-
     private static void constants() {
         DUE.same("NONE", PathTiming.NONE, -2147483648L);
         DUE.same("CYCLE", PathTiming.CYCLE, -1);
@@ -112,7 +59,7 @@ public final class PromiseTest {
     }
 
     private static void clock() {
-        PathTiming x = inputToOutput();
+        PathTiming x = Nets.inputToOutput();
         x.analyse();
         DUE.same("period 100", x.slack(2, 0), 59);
         DUE.argument("clock(1, 1)", () -> x.clock(1, 1));
@@ -204,7 +151,7 @@ public final class PromiseTest {
     }
 
     private static void fullNet() {
-        PathTiming x = inputToOutput();
+        PathTiming x = Nets.inputToOutput();
         for (int node = 3; node < 48; node++) {
             DUE.same("node " + node, node % 3 == 0 ? x.gate(1) : node % 3 == 1 ? x.register() : x.output(), node);
         }
@@ -221,11 +168,11 @@ public final class PromiseTest {
         x.wire(47, 0, 1, 0, 0);
         DUE.same("node 47 is an end", x.analyse(), 2);
         DUE.same("slack at node 47", x.slack(47, 0), 93);
-        row(x, 0, 2, 9, 8 * 47 + 1);
+        DUE.row(x, 0, 2, 9, 8 * 47 + 1);
     }
 
     private static void wire() {
-        PathTiming x = inputToOutput();
+        PathTiming x = Nets.inputToOutput();
         x.register();
         x.gate(2);
         x.analyse();
@@ -342,7 +289,7 @@ public final class PromiseTest {
     }
 
     private static void check() {
-        PathTiming x = inputToOutput();
+        PathTiming x = Nets.inputToOutput();
         x.gate(1);
         x.register();
         x.analyse();
@@ -375,7 +322,7 @@ public final class PromiseTest {
     }
 
     private static void analyse() {
-        PathTiming x = twoRegisters();
+        PathTiming x = Nets.twoRegisters();
         DUE.same("one end", x.analyse(), 1);
         DUE.same("once more", x.analyse(), 1);
         x.wire(1, 0, 2, 0, 0);
@@ -402,7 +349,7 @@ public final class PromiseTest {
     }
 
     private static void tangles() {
-        PathTiming x = tangle(3, 3);
+        PathTiming x = Nets.tangle(3, 3);
         DUE.same("nine ways", x.analyse(), PathTiming.TANGLE);
         DUE.state("nothing is analysed", () -> x.ways(1));
         x.wire(3, 2, 1, 0, 0);
@@ -439,24 +386,8 @@ public final class PromiseTest {
         DUE.same("very many ways to a register", y.analyse(), PathTiming.TANGLE);
     }
 
-    /** Register 1 behind gate 3 behind gate 2 behind the clock, with so many pins of each wired. */
-    private static PathTiming tangle(int first, int second) {
-        PathTiming x = new PathTiming();
-        x.register();
-        x.gate(3);
-        x.gate(3);
-        for (int pin = 0; pin < first; pin++) {
-            x.wire(2, pin, 0, 0, 0);
-        }
-        for (int pin = 0; pin < second; pin++) {
-            x.wire(3, pin, 2, 0, 0);
-        }
-        x.wire(1, 1, 3, 0, 0);
-        return x;
-    }
-
     private static void refusedCallsChangeNothing() {
-        PathTiming x = inputToOutput();
+        PathTiming x = Nets.inputToOutput();
         x.analyse();
         DUE.argument("slack(1, 0)", () -> x.slack(1, 0));
         DUE.argument("worst(2)", () -> x.worst(2));
@@ -469,7 +400,7 @@ public final class PromiseTest {
     }
 
     private static void everyChangeForgets() {
-        PathTiming x = inputToOutput();
+        PathTiming x = Nets.inputToOutput();
         x.gate(1);
         x.register();
         Due.Call[] changes = {
@@ -524,7 +455,7 @@ public final class PromiseTest {
     }
 
     private static void ways() {
-        PathTiming x = halfPeriods();
+        PathTiming x = Nets.halfPeriods();
         DUE.state("before analyse()", () -> x.ways(1));
         x.input(0, 0, 0, 0);
         x.output();
@@ -544,7 +475,7 @@ public final class PromiseTest {
         x.analyse();
         DUE.same("from a rise and from a fall", x.ways(2), 2);
         DUE.same("from an input", x.ways(6), 0);
-        PathTiming y = tangle(3, 2);
+        PathTiming y = Nets.tangle(3, 2);
         y.sense(2, 0, 2);
         DUE.same("eight ways are no tangle", y.analyse(), 0);
         DUE.same("eight ways", y.ways(1), 8);
@@ -553,7 +484,7 @@ public final class PromiseTest {
     }
 
     private static void arrival() {
-        PathTiming x = halfPeriods();
+        PathTiming x = Nets.halfPeriods();
         x.delay(1, 1, 0, 1, 2);
         x.delay(2, 1, 1, 3, 4);
         x.wire(1, 1, 0, 10, 20);
@@ -604,7 +535,7 @@ public final class PromiseTest {
     }
 
     private static void slack() {
-        PathTiming x = twoRegisters();
+        PathTiming x = Nets.twoRegisters();
         DUE.state("before analyse()", () -> x.slack(2, 0));
         x.gate(1);
         x.analyse();
@@ -620,7 +551,7 @@ public final class PromiseTest {
         DUE.same("setup", x.slack(2, 0), 30);
         // Rise: 1 + 13 + 7 - 100 - 5 - 31 + 100; fall: 1 + 19 + 7 - 5 - 41.
         DUE.same("hold", x.slack(2, 1), -19);
-        PathTiming y = halfPeriods();
+        PathTiming y = Nets.halfPeriods();
         y.delay(1, 1, 0, 1, 1);
         y.delay(1, 1, 1, 1, 1);
         DUE.same("two ends", y.analyse(), 2);
@@ -631,7 +562,7 @@ public final class PromiseTest {
         y.wire(2, 0, 2, 5, 6);
         y.analyse();
         DUE.same("from the width to the width", y.slack(2, 0), 40 + 100 - 40 - 6);
-        PathTiming z = halfPeriods();
+        PathTiming z = Nets.halfPeriods();
         z.output();
         z.wire(4, 0, 2, 1, 3);
         z.input(2, 4, 2, 4);
@@ -705,9 +636,9 @@ public final class PromiseTest {
         // Over gate 1 alone: 101 to 111, with 10 shared.
         DUE.same("the sooner way is the worse for setup", x.slack(5, 0), 1000 + 101 + 10 - 338 - 2);
         DUE.same("the later start is the worse for setup", x.path(0, 1), 656);
-        row(x, 0, 1, 0, 8, 16, 24, 43, 33, 0, 8, 16);
+        DUE.row(x, 0, 1, 0, 8, 16, 24, 43, 33, 0, 8, 16);
         DUE.same("the end's sooner way comes next", x.path(0, 2), 771);
-        row(x, 0, 2, 0, 8, 16, 34, 40, 0, 8, 26);
+        DUE.row(x, 0, 2, 0, 8, 16, 34, 40, 0, 8, 26);
     }
 
     /** Two ways to register 2, which differ by the pin of gate 1 or only by the clock's change. */
@@ -725,7 +656,7 @@ public final class PromiseTest {
         // By pin 1 then pin 0: late 25, early 0, no credit.
         DUE.same("the least is of ways that part at once", x.slack(2, 0), 100 - 25);
         DUE.same("its first path", x.path(0, 0), 75);
-        row(x, 0, 0, 0, 10, 18, 16, 0, 8);
+        DUE.row(x, 0, 0, 0, 10, 18, 16, 0, 8);
         DUE.same("the paths with full credit come last", x.path(0, 7), 100);
         x.sense(1, 1, 1);
         x.analyse();
@@ -735,7 +666,7 @@ public final class PromiseTest {
     }
 
     private static void worst() {
-        PathTiming x = inputToOutput();
+        PathTiming x = Nets.inputToOutput();
         DUE.state("before analyse()", () -> x.worst(0));
         x.output();
         x.output();
@@ -753,7 +684,7 @@ public final class PromiseTest {
     }
 
     private static void total() {
-        PathTiming x = inputToOutput();
+        PathTiming x = Nets.inputToOutput();
         DUE.state("before analyse()", () -> x.total(0));
         x.output();
         x.output();
@@ -773,7 +704,7 @@ public final class PromiseTest {
     }
 
     private static void leastPeriod() {
-        PathTiming x = twoRegisters();
+        PathTiming x = Nets.twoRegisters();
         DUE.state("before analyse()", () -> x.leastPeriod());
         x.analyse();
         DUE.same("slack 30 of 100", x.leastPeriod(), 70);
@@ -783,7 +714,7 @@ public final class PromiseTest {
         x.clock(50, 40);
         x.analyse();
         DUE.same("above the period", x.leastPeriod(), 70);
-        PathTiming y = halfPeriods();
+        PathTiming y = Nets.halfPeriods();
         y.analyse();
         DUE.same("a half period has room enough", y.leastPeriod(), 48);
         y.wire(2, 0, 1, 0, 40);
@@ -806,29 +737,12 @@ public final class PromiseTest {
         DUE.same("hold does not matter", z.leastPeriod(), 1000000);
     }
 
-    /** Input 1, then gates each with its pins wired from the one before, then output 2. */
-    private static PathTiming chain(int... pins) {
-        PathTiming x = new PathTiming();
-        x.input(0, 0, 0, 0);
-        x.output();
-        int from = 1;
-        for (int count : pins) {
-            int gate = x.gate(count);
-            for (int pin = 0; pin < count; pin++) {
-                x.wire(gate, pin, from, 0, pin);
-            }
-            from = gate;
-        }
-        x.wire(2, 0, from, 0, 0);
-        return x;
-    }
-
     private static void paths() {
-        PathTiming x = chain(2, 2, 2, 2, 2, 2);
+        PathTiming x = Nets.chain(2, 2, 2, 2, 2, 2);
         DUE.state("before analyse()", () -> x.paths());
         x.analyse();
         DUE.same("two changes, six times two pins", x.paths(), 128);
-        PathTiming y = chain(2, 2, 2, 2, 2, 2, 2, 2, 2, 2);
+        PathTiming y = Nets.chain(2, 2, 2, 2, 2, 2, 2, 2, 2, 2);
         y.analyse();
         DUE.same("2048", y.paths(), 2048);
         y.output();
@@ -836,14 +750,14 @@ public final class PromiseTest {
         y.analyse();
         DUE.same("4096", y.paths(), PathTiming.MANY);
         exactlyMost();
-        PathTiming z = halfPeriods();
+        PathTiming z = Nets.halfPeriods();
         z.sense(3, 0, 2);
         z.analyse();
         DUE.same("each data way with each clock way of its end", z.paths(), 2 * 2 + 2 * 2);
         z.wire(2, 0, 2, 0, 0);
         z.analyse();
         DUE.same("and of its start", z.paths(), 2 * 2 * 2 + 2 * 2);
-        PathTiming w = chain(3, 3, 3, 3, 3, 3, 3, 3, 3, 3, 3, 3, 3, 3, 3, 3, 3, 3, 3, 3, 3, 3, 3, 3, 3, 3, 3, 3, 3, 3);
+        PathTiming w = Nets.chain(3, 3, 3, 3, 3, 3, 3, 3, 3, 3, 3, 3, 3, 3, 3, 3, 3, 3, 3, 3, 3, 3, 3, 3, 3, 3, 3, 3, 3, 3);
         w.analyse();
         DUE.same("far more than an int counts", w.paths(), PathTiming.MANY);
         DUE.same("slack of very many", w.slack(2, 0), 1000 - 60);
@@ -860,11 +774,7 @@ public final class PromiseTest {
 
     /** Outputs that take from different gates make 4000 together; there is never an odd number. */
     private static void exactlyMost() {
-        PathTiming x = chain(2, 2, 2, 2, 2, 2, 2, 2, 2);
-        // 1024 by output 2; then twice 1024, 512, twice 128, 64, 32, twice 16 and four times 8 more.
-        for (int gate : new int[] {11, 11, 10, 8, 8, 7, 6, 5, 5, 4, 4, 4, 4}) {
-            x.wire(x.output(), 0, gate, 0, 0);
-        }
+        PathTiming x = Nets.most();
         x.analyse();
         DUE.same("4000", x.paths(), 4000);
         DUE.same("the first of 4000", x.path(0, 0), 1000 - 9);
@@ -903,7 +813,7 @@ public final class PromiseTest {
     }
 
     private static void path() {
-        PathTiming x = inputToOutput();
+        PathTiming x = Nets.inputToOutput();
         DUE.state("before analyse()", () -> x.path(0, 0));
         x.analyse();
         DUE.argument("check below", () -> x.path(-1, 0));
@@ -916,11 +826,11 @@ public final class PromiseTest {
         DUE.same("second by setup", x.path(0, 1), 81);
         DUE.same("first by hold", x.path(1, 0), -41);
         DUE.same("second by hold", x.path(1, 1), -16);
-        PathTiming y = chain(3, 3);
+        PathTiming y = Nets.chain(3, 3);
         y.analyse();
         DUE.same("eighteen", y.path(0, 17), 1000);
         DUE.place("not nineteen", () -> y.path(0, 18));
-        PathTiming z = chain(3, 3, 3);
+        PathTiming z = Nets.chain(3, 3, 3);
         z.analyse();
         DUE.same("the sum of the pins", z.path(0, 0), 1000 - 6);
         DUE.same("the twentieth", z.path(0, 19), 1000 - 4);
@@ -930,7 +840,7 @@ public final class PromiseTest {
         z.analyse();
         DUE.same("the list is made anew", z.path(0, 0), 1000);
         DUE.place("and short", () -> z.path(0, 2));
-        PathTiming v = chain(1, 1, 1);
+        PathTiming v = Nets.chain(1, 1, 1);
         for (int gate = 3; gate <= 5; gate++) {
             v.delay(gate, 0, 0, gate, 10 * gate);
             v.delay(gate, 0, 1, 10 * gate, 20 * gate);
@@ -940,8 +850,8 @@ public final class PromiseTest {
         DUE.same("over three gates, rising, setup", v.path(0, 1), 1000 - 120);
         DUE.same("over three gates, rising, hold", v.path(1, 0), 12);
         DUE.same("over three gates, falling, hold", v.path(1, 1), 120);
-        row(v, 0, 0, 9, 25, 33, 41, 17);
-        row(v, 1, 0, 8, 24, 32, 40, 16);
+        DUE.row(v, 0, 0, 9, 25, 33, 41, 17);
+        DUE.row(v, 1, 0, 8, 24, 32, 40, 16);
         PathTiming w = new PathTiming();
         w.analyse();
         DUE.place("without a timing path", () -> w.path(0, 0));
@@ -949,7 +859,7 @@ public final class PromiseTest {
     }
 
     private static void element() {
-        PathTiming x = inputToOutput();
+        PathTiming x = Nets.inputToOutput();
         DUE.state("before analyse()", () -> x.element(0, 0, 0));
         x.analyse();
         DUE.argument("check below", () -> x.element(-1, 0, 0));
@@ -957,13 +867,13 @@ public final class PromiseTest {
         DUE.place("k below", () -> x.element(0, -1, 0));
         DUE.place("k behind the last", () -> x.element(0, 2, 0));
         DUE.place("k behind the last with i below", () -> x.element(0, 2, -1));
-        row(x, 0, 0, 9, 17);
-        row(x, 0, 1, 8, 16);
-        row(x, 1, 0, 9, 17);
-        row(x, 1, 1, 8, 16);
+        DUE.row(x, 0, 0, 9, 17);
+        DUE.row(x, 0, 1, 8, 16);
+        DUE.row(x, 1, 0, 9, 17);
+        DUE.row(x, 1, 1, 8, 16);
         DUE.same("i far above", x.element(0, 0, HIGHEST), -1);
         DUE.same("i far below", x.element(0, 0, LOWEST), -1);
-        PathTiming y = halfPeriods();
+        PathTiming y = Nets.halfPeriods();
         y.gate(3);
         y.wire(4, 2, 1, 0, 0);
         y.sense(4, 2, 1);
@@ -971,10 +881,10 @@ public final class PromiseTest {
         y.wire(1, 0, 1, 0, 0);
         y.analyse();
         DUE.same("slack of a half period", y.path(0, 0), 40);
-        row(y, 0, 0, 0, 10, 37, 17, 1, 24);
-        row(y, 0, 1, 0, 11, 36, 16, 1, 24);
-        row(y, 0, 2, 0, 10, 8, 0);
-        row(y, 0, 3, 0, 11, 9, 0);
+        DUE.row(y, 0, 0, 0, 10, 37, 17, 1, 24);
+        DUE.row(y, 0, 1, 0, 11, 36, 16, 1, 24);
+        DUE.row(y, 0, 2, 0, 10, 8, 0);
+        DUE.row(y, 0, 3, 0, 11, 9, 0);
         orderOfEqualSlacks();
     }
 
@@ -996,8 +906,8 @@ public final class PromiseTest {
         };
         DUE.same("eight of one slack", x.paths(), due.length);
         for (int k = 0; k < due.length; k++) {
-            row(x, 0, k, due[k]);
-            row(x, 1, k, due[k]);
+            DUE.row(x, 0, k, due[k]);
+            DUE.row(x, 1, k, due[k]);
         }
     }
 
@@ -1035,6 +945,6 @@ public final class PromiseTest {
         due[94] = 8;
         due[95] = 0;
         DUE.same("the worst", x.path(0, 0), 50000);
-        row(x, 0, 0, due);
+        DUE.row(x, 0, 0, due);
     }
 }

@@ -8,7 +8,7 @@ public final class RandomNetsTest {
     private static int cycles, tangles, many, few, skipped, noPeriod, periods, fixedEdges;
 
     private final Random random;
-    private final PathTiming x = new PathTiming();
+    private final Bench bench = new Bench();
     private final Reference r = new Reference();
     private final int reach;
     /** Nets with many ways: gates take from the gates right before them. */
@@ -61,13 +61,13 @@ public final class RandomNetsTest {
                 addGate();
             } else if (k < gates + registers) {
                 registers--;
-                DUE.same("register()", x.register(), r.add('r', 2));
+                DUE.same("register()", bench.make(x -> x.register()), r.add('r', 2));
             } else if (k < gates + registers + inputs) {
                 inputs--;
                 addInput();
             } else {
                 outputs--;
-                DUE.same("output()", x.output(), r.add('o', 1));
+                DUE.same("output()", bench.make(x -> x.output()), r.add('o', 1));
             }
         }
         boolean mayTurn = pick(12) == 0;
@@ -82,14 +82,16 @@ public final class RandomNetsTest {
     }
 
     private void setClock() {
-        r.period = 2 + pick(reach * 3);
-        r.width = 1 + pick(r.period - 1);
-        x.clock(r.period, r.width);
+        int period = 2 + pick(reach * 3);
+        int width = 1 + pick(period - 1);
+        r.period = period;
+        r.width = width;
+        bench.change(x -> x.clock(period, width));
     }
 
     private void addGate() {
         int pins = 1 + pick(3);
-        DUE.same("gate()", x.gate(pins), r.add('g', pins));
+        DUE.same("gate()", bench.make(x -> x.gate(pins)), r.add('g', pins));
     }
 
     private void addInput() {
@@ -103,7 +105,7 @@ public final class RandomNetsTest {
             r.nodes.get(n).early[c] = t[2 * c];
             r.nodes.get(n).late[c] = t[2 * c + 1];
         }
-        DUE.same("input()", x.input(t[0], t[1], t[2], t[3]), n);
+        DUE.same("input()", bench.make(x -> x.input(t[0], t[1], t[2], t[3])), n);
     }
 
     /** The gates' numbers give an order, so that most nets have no cycle. */
@@ -121,37 +123,55 @@ public final class RandomNetsTest {
             if (!mayTurn && r.nodes.get(n).kind == 'g' && kind == 'g' && from >= n) {
                 continue;
             }
-            Reference.Pin pin = r.nodes.get(n).pins[p];
-            pin.from = from;
-            pin.wireEarly = pick(reach);
-            pin.wireLate = pin.wireEarly + pick(reach);
-            x.wire(n, p, from, pin.wireEarly, pin.wireLate);
+            int early = pick(reach);
+            putWire(n, p, from, early, early + pick(reach));
             return true;
         }
         return false;
     }
 
+    private void putWire(int n, int p, int from, int early, int late) {
+        Reference.Pin pin = r.nodes.get(n).pins[p];
+        pin.from = from;
+        pin.wireEarly = early;
+        pin.wireLate = late;
+        bench.change(x -> x.wire(n, p, from, early, late));
+    }
+
     private void setTimes(int n) {
         Reference.Node node = r.nodes.get(n);
         for (int p = 0; p < node.pins.length && node.kind == 'g'; p++) {
-            node.pins[p].sense = pick(5) / 2;
-            x.sense(n, p, node.pins[p].sense);
-            for (int c = 0; c < 2; c++) {
-                node.pins[p].early[c] = pick(reach);
-                node.pins[p].late[c] = node.pins[p].early[c] + pick(reach);
-                x.delay(n, p, c, node.pins[p].early[c], node.pins[p].late[c]);
-            }
+            setSense(n, p, pick(5) / 2);
+            setDelay(n, p, node.pins[p].early, node.pins[p].late);
         }
-        for (int c = 0; c < 2 && node.kind == 'r'; c++) {
-            node.early[c] = pick(reach);
-            node.late[c] = node.early[c] + pick(reach);
-            x.delay(n, 1, c, node.early[c], node.late[c]);
+        if (node.kind == 'r') {
+            setDelay(n, 1, node.early, node.late);
         }
         for (int c = 0; c < 2 && (node.kind == 'r' || node.kind == 'o'); c++) {
-            node.setup[c] = pick(2 * reach) - reach / 2;
-            node.hold[c] = pick(2 * reach) - reach / 2;
-            x.check(n, c, node.setup[c], node.hold[c]);
+            setCheck(n, c, pick(2 * reach) - reach / 2, pick(2 * reach) - reach / 2);
         }
+    }
+
+    private void setSense(int n, int p, int sense) {
+        r.nodes.get(n).pins[p].sense = sense;
+        bench.change(x -> x.sense(n, p, sense));
+    }
+
+    private void setDelay(int n, int p, int[] earlies, int[] lates) {
+        for (int c = 0; c < 2; c++) {
+            int change = c;
+            int early = pick(reach);
+            int late = early + pick(reach);
+            earlies[c] = early;
+            lates[c] = late;
+            bench.change(x -> x.delay(n, p, change, early, late));
+        }
+    }
+
+    private void setCheck(int n, int change, int setup, int hold) {
+        r.nodes.get(n).setup[change] = setup;
+        r.nodes.get(n).hold[change] = hold;
+        bench.change(x -> x.check(n, change, setup, hold));
     }
 
     private void change() {
@@ -161,18 +181,14 @@ public final class RandomNetsTest {
         if (what == 0 || what == 1 && (pins == 0 || !setWire(n, pick(pins), pick(6) == 0))) {
             setClock();
         } else if (what == 1) {
-            DUE.state("paths() of a net wired anew", () -> x.paths());
+            DUE.state("paths() of a net wired anew", () -> bench.x().paths());
         } else if (what == 2 && r.nodes.size() < 40) {
             addGate();
             int gate = r.nodes.size() - 1;
             setWire(gate, 0, false);
             setTimes(gate);
             if (pins > 0) {
-                int p = pick(pins);
-                r.nodes.get(n).pins[p].from = gate;
-                r.nodes.get(n).pins[p].wireEarly = 0;
-                r.nodes.get(n).pins[p].wireLate = 3;
-                x.wire(n, p, gate, 0, 3);
+                putWire(n, pick(pins), gate, 0, 3);
             }
         } else {
             setTimes(n);
@@ -180,40 +196,40 @@ public final class RandomNetsTest {
                 setClock();
             }
         }
-        DUE.state("worst() of a changed net", () -> x.worst(0));
+        DUE.state("worst() of a changed net", () -> bench.x().worst(0));
     }
 
     private void compare(String name) {
         int cycle = r.cycle();
-        DUE.same(name + " cycle()", x.cycle(), cycle);
+        DUE.same(name + " cycle()", bench.x().cycle(), cycle);
         if (cycle != Reference.NONE) {
             cycles++;
-            DUE.same(name + " analyse()", x.analyse(), PathTiming.CYCLE);
-            DUE.state(name + " paths()", () -> x.paths());
+            DUE.same(name + " analyse()", bench.make(x -> x.analyse()), PathTiming.CYCLE);
+            DUE.state(name + " paths()", () -> bench.x().paths());
             return;
         }
         int found = r.find();
         if (found == 1) {
             skipped++;
-            x.analyse();
+            bench.make(x -> x.analyse());
             return;
         }
         if (found == -2) {
             tangles++;
-            DUE.same(name + " analyse()", x.analyse(), PathTiming.TANGLE);
-            DUE.state(name + " paths()", () -> x.paths());
+            DUE.same(name + " analyse()", bench.make(x -> x.analyse()), PathTiming.TANGLE);
+            DUE.state(name + " paths()", () -> bench.x().paths());
             return;
         }
-        DUE.same(name + " analyse()", x.analyse(), r.ends());
+        DUE.same(name + " analyse()", bench.make(x -> x.analyse()), r.ends());
         compareTimes(name);
         if (r.timings.size() > 4000) {
             many++;
-            DUE.same(name + " paths()", x.paths(), PathTiming.MANY);
-            DUE.state(name + " path()", () -> x.path(0, 0));
-            DUE.state(name + " element()", () -> x.element(0, 0, 0));
+            DUE.same(name + " paths()", bench.x().paths(), PathTiming.MANY);
+            DUE.state(name + " path()", () -> bench.x().path(0, 0));
+            DUE.state(name + " element()", () -> bench.x().element(0, 0, 0));
         } else {
             few++;
-            DUE.same(name + " paths()", x.paths(), r.timings.size());
+            DUE.same(name + " paths()", bench.x().paths(), r.timings.size());
             comparePaths(name, 0);
             comparePaths(name, 1);
         }
@@ -224,21 +240,21 @@ public final class RandomNetsTest {
             char kind = r.nodes.get(n).kind;
             for (int i = 0; i < 8; i++) {
                 DUE.same(name + " arrival(" + n + ", " + (i & 1) + ", " + (i >> 1 & 1) + ", " + (i >= 4) + ")",
-                        x.arrival(n, i & 1, i >> 1 & 1, i >= 4), r.arrival(n, i & 1, i >> 1 & 1, i >= 4));
+                        bench.x().arrival(n, i & 1, i >> 1 & 1, i >= 4), r.arrival(n, i & 1, i >> 1 & 1, i >= 4));
             }
             if (kind == 'r') {
-                DUE.same(name + " ways(" + n + ")", x.ways(n), r.clockWays.get(n).size());
+                DUE.same(name + " ways(" + n + ")", bench.x().ways(n), r.clockWays.get(n).size());
             }
             for (int check = 0; check < 2 && (kind == 'r' || kind == 'o'); check++) {
-                DUE.same(name + " slack(" + n + ", " + check + ")", x.slack(n, check), r.slack(n, check));
+                DUE.same(name + " slack(" + n + ", " + check + ")", bench.x().slack(n, check), r.slack(n, check));
             }
         }
         for (int check = 0; check < 2; check++) {
-            DUE.same(name + " worst(" + check + ")", x.worst(check), r.worst(check));
-            DUE.same(name + " total(" + check + ")", x.total(check), r.total(check));
+            DUE.same(name + " worst(" + check + ")", bench.x().worst(check), r.worst(check));
+            DUE.same(name + " total(" + check + ")", bench.x().total(check), r.total(check));
         }
         int period = r.leastPeriod();
-        DUE.same(name + " leastPeriod()", x.leastPeriod(), period);
+        DUE.same(name + " leastPeriod()", bench.x().leastPeriod(), period);
         noPeriod += period == Reference.NONE ? 1 : 0;
         periods += period > r.width + 1 ? 1 : 0;
         for (Reference.Timing t : r.timings) {
@@ -253,14 +269,14 @@ public final class RandomNetsTest {
         List<Reference.Timing> sorted = r.inOrder(check);
         for (int k = 0; k < Math.min(20, sorted.size()); k++) {
             Reference.Timing t = sorted.get(k);
-            DUE.same(name + " path(" + check + ", " + k + ")", x.path(check, k), r.slack(t, check, r.period));
+            DUE.same(name + " path(" + check + ", " + k + ")", bench.x().path(check, k), r.slack(t, check, r.period));
             for (int i = -1; i <= t.row.length; i++) {
                 int due = i < 0 || i >= t.row.length ? -1 : t.row[i];
-                DUE.same(name + " element(" + check + ", " + k + ", " + i + ")", x.element(check, k, i), due);
+                DUE.same(name + " element(" + check + ", " + k + ", " + i + ")", bench.x().element(check, k, i), due);
             }
         }
         int behind = Math.min(20, sorted.size());
-        DUE.place(name + " path(" + check + ", " + behind + ")", () -> x.path(check, behind));
-        DUE.place(name + " element(" + check + ", " + behind + ", 0)", () -> x.element(check, behind, 0));
+        DUE.place(name + " path(" + check + ", " + behind + ")", () -> bench.x().path(check, behind));
+        DUE.place(name + " element(" + check + ", " + behind + ", 0)", () -> bench.x().element(check, behind, 0));
     }
 }
