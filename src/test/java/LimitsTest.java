@@ -19,6 +19,7 @@ public final class LimitsTest {
         eightClockWays();
         eightWaysOfManyRegisters();
         nineWaysToNoRegister();
+        veryManyWaysToNoRegister();
         cycleBeforeTangle();
         leastGateOfACycle();
         ringsThatAreNoCycle();
@@ -179,11 +180,13 @@ public final class LimitsTest {
 
     /** "An object is used for at most 512 calls": the last of them is answered as the first. */
     private static void callsOfOneObject() {
-        PathTiming x = Nets.inputToOutput();
-        for (int call = 7; call < 512; call++) {
+        PathTiming x = Nets.twoRegisters();
+        for (int call = 11; call < 510; call++) {
             x.analyse();
         }
-        DUE.same("the 512th call", x.path(0, 0), 59);
+        DUE.same("the 510th call", x.ways(2), 1);
+        DUE.same("the 511th call", x.slack(2, 0), 30);
+        DUE.same("the 512th call", x.path(1, 0), -19);
         PathTiming y = Nets.inputToOutput();
         y.analyse();
         for (int call = 8; call < 512; call++) {
@@ -280,6 +283,37 @@ public final class LimitsTest {
         }
         DUE.same("nine ways from an input", y.analyse(), 0);
         DUE.same("none of the clock's", y.ways(1), 0);
+    }
+
+    /** One way to register 1 over 23 gates, beside 23 gates with more ways than can be counted. */
+    private static void veryManyWaysToNoRegister() {
+        PathTiming x = new PathTiming();
+        x.register();
+        for (int gate = 2; gate < 48; gate++) {
+            x.gate(3);
+            x.wire(gate, 0, gate <= 3 ? 0 : gate - 2, 0, 0);
+        }
+        x.wire(1, 1, 47, 0, 0);
+        x.analyse();
+        DUE.same("one way by the odd gates", x.ways(1), 1);
+        x.wire(1, 1, 46, 0, 0);
+        x.analyse();
+        DUE.same("one way by the even gates", x.ways(1), 1);
+        for (int gate = 3; gate < 48; gate += 2) {
+            for (int pin = 0; pin < 3; pin++) {
+                x.wire(gate, pin, gate <= 3 ? 0 : gate - 2, 0, 0);
+                x.sense(gate, pin, 2);
+            }
+        }
+        x.wire(1, 0, 1, 0, 0);
+        DUE.same("very many ways by the odd gates, to no register", x.analyse(), 1);
+        DUE.same("one way by the even gates still", x.ways(1), 1);
+        DUE.same("which is told", x.element(0, 0, 23), 8 * 46);
+        x.wire(1, 1, 47, 0, 0);
+        DUE.same("very many ways to a register", x.analyse(), PathTiming.TANGLE);
+        x.wire(1, 1, 46, 0, 0);
+        x.analyse();
+        DUE.same("one way again", x.ways(1), 1);
     }
 
     private static void cycleBeforeTangle() {
