@@ -4,6 +4,9 @@ import java.util.Random;
 /** Nets from a fixed seed: every answer of the program against the reference's. */
 public final class RandomNetsTest {
     private static final int NETS = 6000;
+    /** Above what times may be apart; the last one comes to the greatest delay. */
+    private static final int[] REACHES = {1, 1, 30, 30, 400, 400, 10001};
+    private static final int GREATEST_DELAY = 10000;
     private static final Due DUE = new Due();
     private static int cycles, tangles, many, few, skipped, noPeriod, periods, fixedEdges;
 
@@ -13,11 +16,14 @@ public final class RandomNetsTest {
     private final int reach;
     /** Nets with many ways: gates take from the gates right before them. */
     private final boolean isDense;
+    /** Nets of 48 nodes; most of their times stay as they are in a new net, to save calls. */
+    private final boolean isFull;
 
     private RandomNetsTest(long seed) {
         random = new Random(seed);
-        reach = random.nextInt(4) == 0 ? 1 : random.nextBoolean() ? 30 : 400;
+        reach = REACHES[random.nextInt(REACHES.length)];
         isDense = random.nextInt(5) == 0;
+        isFull = !isDense && random.nextInt(8) == 0;
     }
 
     public static void main(String[] args) {
@@ -45,14 +51,22 @@ public final class RandomNetsTest {
         return random.nextInt(n);
     }
 
+    private int late(int early) {
+        return Math.min(early + pick(reach), GREATEST_DELAY);
+    }
+
+    private int checkTime() {
+        return Math.min(pick(2 * reach) - reach / 2, GREATEST_DELAY);
+    }
+
     private void build() {
         if (pick(4) != 0) {
             setClock();
         }
-        int gates = isDense ? 8 + pick(8) : pick(9);
-        int registers = 1 + pick(4);
-        int inputs = pick(3);
-        int outputs = pick(3);
+        int registers = 1 + pick(isFull ? 12 : 4);
+        int inputs = pick(isFull ? 6 : 3);
+        int outputs = pick(isFull ? 6 : 3);
+        int gates = isFull ? 47 - registers - inputs - outputs : isDense ? 8 + pick(8) : pick(9);
         int all = gates + registers + inputs + outputs;
         for (int i = 0; i < all; i++) {
             int k = pick(gates + registers + inputs + outputs);
@@ -77,7 +91,12 @@ public final class RandomNetsTest {
                     setWire(n, p, mayTurn);
                 }
             }
-            setTimes(n);
+            if (!isFull || pick(4) == 0) {
+                setTimes(n);
+            }
+        }
+        if (isFull) {
+            DUE.same("a full net", bench.x().register(), PathTiming.NONE);
         }
     }
 
@@ -90,7 +109,7 @@ public final class RandomNetsTest {
     }
 
     private void addGate() {
-        int pins = 1 + pick(3);
+        int pins = isFull ? 1 + pick(7) / 3 : 1 + pick(3);
         DUE.same("gate()", bench.make(x -> x.gate(pins)), r.add('g', pins));
     }
 
@@ -124,7 +143,7 @@ public final class RandomNetsTest {
                 continue;
             }
             int early = pick(reach);
-            putWire(n, p, from, early, early + pick(reach));
+            putWire(n, p, from, early, late(early));
             return true;
         }
         return false;
@@ -148,7 +167,7 @@ public final class RandomNetsTest {
             setDelay(n, 1, node.early, node.late);
         }
         for (int c = 0; c < 2 && (node.kind == 'r' || node.kind == 'o'); c++) {
-            setCheck(n, c, pick(2 * reach) - reach / 2, pick(2 * reach) - reach / 2);
+            setCheck(n, c, checkTime(), checkTime());
         }
     }
 
@@ -161,7 +180,7 @@ public final class RandomNetsTest {
         for (int c = 0; c < 2; c++) {
             int change = c;
             int early = pick(reach);
-            int late = early + pick(reach);
+            int late = late(early);
             earlies[c] = early;
             lates[c] = late;
             bench.change(x -> x.delay(n, p, change, early, late));
