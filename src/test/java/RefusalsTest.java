@@ -274,10 +274,10 @@ public final class RefusalsTest {
         DUE.same("still analysed", x.paths(), 16);
     }
 
+    /** The twin stands as the object did before the call. */
     private static void changesNothing(String what, PathTiming twin, PathTiming x, Act call) {
-        int last = LAST_OF_SAMPLE;
         call.on(x);
-        DUE.text(what + " changes nothing", Answers.of(x, last), Answers.of(twin, last));
+        DUE.text(what + " changes nothing", Answers.of(x, LAST_OF_SAMPLE), Answers.of(twin, LAST_OF_SAMPLE));
     }
 
     /** Every question that throws, on what was analysed: all stays as it was. */
